@@ -1,0 +1,69 @@
+import java.util.NoSuchElementException;
+
+/** What the tests share: texts put on a tape, answers compared and counted. */
+final class Tester {
+    static final int THROWS = Integer.MIN_VALUE;
+
+    private int wrong = 0;
+    private int asked = 0;
+
+    void due(String call, long want, long got) {
+        asked++;
+        if (want != got) {
+            wrong++;
+            if (wrong <= 50) {
+                System.out.println(call + " answered " + got + ", due is " + want);
+            }
+        }
+    }
+
+    void due(String call, boolean want, boolean got) {
+        due(call, want ? 1 : 0, got ? 1 : 0);
+    }
+
+    /** Tells the result; ends with exit code 1 if an answer was wrong. */
+    void finish() {
+        System.out.println(asked + " answers, " + wrong + " not as due");
+        if (wrong > 0 || asked == 0) {
+            System.exit(1);
+        }
+    }
+
+    static int sum(NoughtSums x, int set) {
+        try {
+            return x.sum(set);
+        } catch (NoSuchElementException e) {
+            return THROWS;
+        }
+    }
+
+    /** Puts a text of up to 340 bytes on an empty tape. */
+    static void put(NoughtSums x, String text) {
+        x.end(0);
+        int[] five = new int[5];
+        for (int begin = 0; begin < text.length(); begin += 20) {
+            for (int i = 0; i < 5; i++) {
+                five[i] = 0;
+                for (int j = 0; j < 4; j++) {
+                    int at = begin + 4 * i + j;
+                    five[i] = five[i] << 8 | (at < text.length() ? text.charAt(at) & 255 : 0);
+                }
+            }
+            x.feed(five[0], five[1], five[2], five[3], five[4]);
+        }
+        x.end(text.length());
+    }
+
+    static int read(NoughtSums x, String text) {
+        put(x, text);
+        return x.text();
+    }
+
+    static NoughtSums of(String text) {
+        NoughtSums x = new NoughtSums();
+        if (read(x, text) < 0) {
+            throw new IllegalStateException("a test's text has a fault: " + text);
+        }
+        return x;
+    }
+}
