@@ -744,8 +744,8 @@ public final class NoughtSums {
         }
 
         private void fillTables() {
-            for (int a = 0; has(a); a++) {
-                for (int b = 0; has(b); b++) {
+            for (int a = 0; a < order && a < MOST_ORDER; a++) {
+                for (int b = 0; b < order && b < MOST_ORDER; b++) {
                     int c = plusByParts(a, b);
                     made[a * MOST_ORDER + b] = (byte) c;
                     if (c == NOUGHT) {
@@ -843,11 +843,11 @@ public final class NoughtSums {
         }
 
         boolean has(int place) {
-            return place >= 0 && place < length && place < elements.length;
+            return place >= 0 && place < length && place < MOST_PLACES;
         }
 
         boolean isFull() {
-            return length >= elements.length;
+            return length >= MOST_PLACES;
         }
 
         int elementAt(int place) {
@@ -864,13 +864,13 @@ public final class NoughtSums {
 
         void copyFrom(Row other) {
             length = other.length;
-            for (int place = 0; has(place) && other.has(place); place++) {
+            for (int place = 0; place < length && place < MOST_PLACES; place++) {
                 elements[place] = other.elements[place];
             }
         }
 
         boolean append(int g) {
-            if (length < 0 || length >= elements.length) {
+            if (length < 0 || length >= MOST_PLACES) {
                 return false;
             }
             elements[length] = g;
@@ -882,7 +882,7 @@ public final class NoughtSums {
             if (!has(place)) {
                 return false;
             }
-            for (int i = place; has(i) && has(i + 1); i++) {
+            for (int i = place; i + 1 < length && i + 1 < MOST_PLACES; i++) {
                 elements[i] = elements[i + 1];
             }
             length--;
@@ -890,22 +890,20 @@ public final class NoughtSums {
         }
 
         void multiply(Group group, int u) {
-            for (int place = 0; has(place); place++) {
+            for (int place = 0; place < length && place < MOST_PLACES; place++) {
                 elements[place] = group.multiple(elements[place], u);
             }
         }
 
         void putInOrder() {
-            for (int end = 1; has(end); end++) {
+            for (int end = 1; end < length && end < MOST_PLACES; end++) {
                 int g = elements[end];
                 int place = end;
-                while (place > 0 && has(place) && elements[place - 1] > g) {
+                while (place > 0 && elements[place - 1] > g) {
                     elements[place] = elements[place - 1];
                     place--;
                 }
-                if (has(place)) {
-                    elements[place] = g;
-                }
+                elements[place] = g;
             }
         }
 
@@ -915,7 +913,7 @@ public final class NoughtSums {
 
         /** Place by place, for a row of as many places. */
         boolean isLessThan(Row other) {
-            for (int place = 0; has(place) && other.has(place); place++) {
+            for (int place = 0; place < length && place < MOST_PLACES; place++) {
                 if (elements[place] != other.elements[place]) {
                     return elements[place] < other.elements[place];
                 }
@@ -925,7 +923,7 @@ public final class NoughtSums {
 
         int sumOfSet(Group group, int set) {
             int result = NOUGHT;
-            for (int place = 0; has(place); place++) {
+            for (int place = 0; place < length && place < MOST_PLACES; place++) {
                 if ((set >>> place & 1) != 0) {
                     result = group.plus(result, elements[place]);
                 }
@@ -936,7 +934,7 @@ public final class NoughtSums {
         /** How long the shortest run from a place on is that makes g; NONE if none does. */
         int shortestRun(Group group, int begin, int g) {
             int made = NOUGHT;
-            for (int place = begin; has(place); place++) {
+            for (int place = Math.max(begin, 0); place < length && place < MOST_PLACES; place++) {
                 made = group.plus(made, elements[place]);
                 if (made == g) {
                     return place - begin + 1;
@@ -1024,7 +1022,7 @@ public final class NoughtSums {
                 }
             }
             ways[0][NOUGHT] = 1;
-            for (int place = 0; row.has(place); place++) {
+            for (int place = 0; place < row.length() && place < MOST_PLACES; place++) {
                 int element = row.elementAt(place);
                 // From the most down, so that no place counts twice.
                 for (int k = place + 1; k >= 1; k--) {
@@ -1037,7 +1035,7 @@ public final class NoughtSums {
             if (k < 1 || k > MOST_PLACES) {
                 return;
             }
-            for (int g = 0; group.has(g); g++) {
+            for (int g = 0; g < group.order() && g < MOST_ORDER; g++) {
                 int without = group.plus(g, group.opposite(element));
                 if (group.has(without)) {
                     ways[k][g] += ways[k - 1][without];
@@ -1078,7 +1076,7 @@ public final class NoughtSums {
                 counts[g] = 0;
             }
             counts[NOUGHT] = 1;
-            for (int place = 0; row.has(place); place++) {
+            for (int place = 0; place < row.length() && place < MOST_PLACES; place++) {
                 countPlace(group, row.elementAt(place));
             }
             int result = wanted >= 0 && wanted < MOST_ORDER ? counts[wanted] : 0;
@@ -1090,7 +1088,7 @@ public final class NoughtSums {
                 countsAhead[g] = counts[g];
             }
             int opposite = group.opposite(element);
-            for (int g = 0; group.has(g); g++) {
+            for (int g = 0; g < group.order() && g < MOST_ORDER; g++) {
                 int more = group.plus(g, element);
                 int less = group.plus(g, opposite);
                 if (group.has(more) && group.has(less)) {
@@ -1180,7 +1178,7 @@ public final class NoughtSums {
             studied.copyFrom(row);
             studiedGroup = group.code();
             whole = Math.min(row.wholeSet(), MOST_SETS - 1);
-            for (int place = 0; row.has(place); place++) {
+            for (int place = 0; place < row.length() && place < MOST_PLACES; place++) {
                 fillSetsUpTo(group, place);
             }
             fillTaken();
@@ -1211,8 +1209,10 @@ public final class NoughtSums {
 
         private int mostWithoutOne(int set) {
             int result = 0;
-            for (int left = set; left > 0; left &= left - 1) {
-                result = Math.max(result, mostOf(set ^ (left & -left)));
+            for (int place = 0; place < studied.length(); place++) {
+                if ((set >>> place & 1) != 0) {
+                    result = Math.max(result, mostOf(set ^ 1 << place));
+                }
             }
             return result;
         }
@@ -1234,9 +1234,9 @@ public final class NoughtSums {
 
         /** Of places with one element it is all one which go: so the first go first. */
         private boolean hasLastOfEach(int left) {
-            for (int place = 0; studied.has(place); place++) {
+            for (int place = 0; place < studied.length(); place++) {
                 if ((left >>> place & 1) != 0) {
-                    for (int other = place + 1; studied.has(other); other++) {
+                    for (int other = place + 1; other < studied.length(); other++) {
                         if ((left >>> other & 1) == 0 && studied.elementAt(other) == studied.elementAt(place)) {
                             return false;
                         }

@@ -37,6 +37,8 @@ final class Model {
     private int faultKind = 0;
     private int faultPlace = 0;
     private int faultRow = NONE;
+    private State tableOf = null;
+    private int[] table = null;
     private static final Map<String, List<List<Integer>>> FREE_OF_GROUP = new HashMap<>();
     private static final Map<String, Integer> ENOUGH_OF_GROUP = new HashMap<>();
 
@@ -122,6 +124,19 @@ final class Model {
             }
         }
         return s;
+    }
+
+    /** The sum of each set of the row's places, made anew when the row is another one. */
+    private int[] table() {
+        State s = tableOf;
+        if (s == null || !s.parts.equals(now.parts) || !s.row.equals(now.row)) {
+            tableOf = now.copy();
+            table = new int[1 << n()];
+            for (int set = 0; set < table.length; set++) {
+                table[set] = sumOf(now.row, set);
+            }
+        }
+        return table;
     }
 
     private boolean isFree(List<Integer> row) {
@@ -313,7 +328,7 @@ final class Model {
     int sums() {
         int bits = 0;
         for (int set = 1; set < 1 << n(); set++) {
-            bits |= 1 << sumOf(now.row, set);
+            bits |= 1 << table()[set];
         }
         return bits;
     }
@@ -321,7 +336,7 @@ final class Model {
     int found(int g, int what) {
         int best = NONE;
         for (int set = 1; has(g) && set < 1 << n(); set++) {
-            if (sumOf(now.row, set) == g && (best == NONE || Integer.bitCount(set) < Integer.bitCount(best))) {
+            if (table()[set] == g && (best == NONE || Integer.bitCount(set) < Integer.bitCount(best))) {
                 best = set;
             }
         }
@@ -334,7 +349,7 @@ final class Model {
         }
         int count = 0;
         for (int set = 1; set < 1 << n(); set++) {
-            if (sumOf(now.row, set) == g && (k == 0 || Integer.bitCount(set) == k)) {
+            if (table()[set] == g && (k == 0 || Integer.bitCount(set) == k)) {
                 count++;
             }
         }
@@ -343,7 +358,7 @@ final class Model {
 
     int exactly(int g, int k) {
         for (int set = 1; has(g) && set < 1 << n(); set++) {
-            if (sumOf(now.row, set) == g && Integer.bitCount(set) == k) {
+            if (table()[set] == g && Integer.bitCount(set) == k) {
                 return set;
             }
         }
@@ -383,11 +398,11 @@ final class Model {
     // ---- parted
 
     private boolean isAtom(int set) {
-        if (sumOf(now.row, set) != 0) {
+        if (table()[set] != 0) {
             return false;
         }
         for (int sub = (set - 1) & set; sub > 0; sub = (sub - 1) & set) {
-            if (sumOf(now.row, sub) == 0) {
+            if (table()[sub] == 0) {
                 return false;
             }
         }

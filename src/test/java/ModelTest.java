@@ -8,34 +8,25 @@ public final class ModelTest {
         {4, 4}, {3, 6}, {12, 2}, {2, 12}, {4, 6}, {2, 2, 2}, {2, 2, 3}, {2, 3, 2}, {2, 2, 4}, {2, 2, 5}, {2, 2, 6},
         {3, 2, 4}, {6, 2, 2}, {2, 3, 3}};
 
-    private final Tester t = new Tester();
+    private final Tester t;
     private final Random random;
     private NoughtSums x;
     private Model m;
 
-    private ModelTest(long seed) {
+    private ModelTest(Tester t, long seed) {
+        this.t = t;
         random = new Random(seed);
     }
 
     public static void main(String[] args) {
-        ModelTest texts = new ModelTest(11);
-        texts.texts(20000);
-        ModelTest runs = new ModelTest(12);
-        for (int i = 0; i < 250; i++) {
+        Tester t = new Tester();
+        new ModelTest(t, 11).texts(8000);
+        ModelTest runs = new ModelTest(t, 12);
+        for (int i = 0; i < 100; i++) {
             runs.callsOfOneObject(i);
         }
-        ModelTest groups = new ModelTest(13);
-        groups.allGroups();
-        Tester all = new Tester();
-        all.due("all tests of texts", 0, texts.finishQuietly());
-        all.due("all tests of runs", 0, runs.finishQuietly());
-        all.due("all tests of groups", 0, groups.finishQuietly());
-        all.finish();
-    }
-
-    private int finishQuietly() {
+        new ModelTest(t, 13).allGroups();
         t.finish();
-        return 0;
     }
 
     // ---- texts
