@@ -97,21 +97,9 @@ public final class ModelTest {
         return s.length() > 340 ? s.substring(0, 340) : s.toString();
     }
 
-    private void feedBoth(String text) {
-        Tester.put(x, text);
-        m.end(0);
-        for (int i = 0; i < text.length(); i += 20) {
-            int[] v = new int[5];
-            for (int j = 0; j < 20; j++) {
-                v[j / 4] = v[j / 4] << 8 | (i + j < text.length() ? text.charAt(i + j) : 0);
-            }
-            m.feed(v[0], v[1], v[2], v[3], v[4]);
-        }
-        m.end(text.length());
-    }
-
     private void readBoth(String text) {
-        feedBoth(text);
+        Tester.put(x, text);
+        Tester.put(m, text);
         String shown = "text of " + text.replace('\n', '|');
         t.due(shown + " tape", m.now(6), x.now(6));
         t.due(shown, m.text(), x.text());

@@ -693,15 +693,7 @@ public final class PromisesTest {
     }
 
     private static int readModel(Model m, String text) {
-        m.end(0);
-        for (int i = 0; i < text.length(); i += 20) {
-            int[] v = new int[5];
-            for (int j = 0; j < 20; j++) {
-                v[j / 4] = v[j / 4] << 8 | (i + j < text.length() ? text.charAt(i + j) : 0);
-            }
-            m.feed(v[0], v[1], v[2], v[3], v[4]);
-        }
-        m.end(text.length());
+        Tester.put(m, text);
         return m.text();
     }
 

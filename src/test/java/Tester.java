@@ -37,21 +37,31 @@ final class Tester {
         }
     }
 
+    /** The numbers that feed() takes for a text: five for twenty bytes. */
+    static int[][] numbersOf(String text) {
+        int[][] all = new int[(text.length() + 19) / 20][5];
+        for (int i = 0; i < 20 * all.length; i++) {
+            int b = i < text.length() ? text.charAt(i) & 255 : 0;
+            all[i / 20][i % 20 / 4] = all[i / 20][i % 20 / 4] << 8 | b;
+        }
+        return all;
+    }
+
     /** Puts a text of up to 340 bytes on an empty tape. */
     static void put(NoughtSums x, String text) {
         x.end(0);
-        int[] five = new int[5];
-        for (int begin = 0; begin < text.length(); begin += 20) {
-            for (int i = 0; i < 5; i++) {
-                five[i] = 0;
-                for (int j = 0; j < 4; j++) {
-                    int at = begin + 4 * i + j;
-                    five[i] = five[i] << 8 | (at < text.length() ? text.charAt(at) & 255 : 0);
-                }
-            }
-            x.feed(five[0], five[1], five[2], five[3], five[4]);
+        for (int[] v : numbersOf(text)) {
+            x.feed(v[0], v[1], v[2], v[3], v[4]);
         }
         x.end(text.length());
+    }
+
+    static void put(Model m, String text) {
+        m.end(0);
+        for (int[] v : numbersOf(text)) {
+            m.feed(v[0], v[1], v[2], v[3], v[4]);
+        }
+        m.end(text.length());
     }
 
     static int read(NoughtSums x, String text) {
