@@ -48,14 +48,6 @@ public final class PromisesTest {
         T.due("tape behind " + text, 0, x.now(6));
     }
 
-    private static void row(String call, NoughtSums x, int... elements) {
-        T.due(call + " places", elements.length, x.now(3));
-        for (int i = 0; i < elements.length; i++) {
-            T.due(call + " at(" + i + ")", elements[i], x.at(i));
-        }
-        T.due(call + " at(" + elements.length + ")", NONE, x.at(elements.length));
-    }
-
     // ---- promise 1
 
     private static void newObject() {
@@ -116,12 +108,12 @@ public final class PromisesTest {
     private static void texts() {
         NoughtSums x = Tester.of("group 2 3 4;put 1 2 3;put 0 1 0 times 2;");
         T.due("rows", 3, Tester.read(x, "group 2 3 4;put 1 2 3;put 0 1 0 times 2;"));
-        row("three parts", x, 23, 4, 4);
+        T.row("three parts", x, 23, 4, 4);
         T.due("tape", 0, x.now(6));
         T.due("close together", 2, Tester.read(x, "group\n12\n2;put\n11\n1\ntimes 3;"));
-        row("close", x, 23, 23, 23);
+        T.row("close", x, 23, 23, 23);
         T.due("leading noughts", 2, Tester.read(x, "  group 05 ;\n put 04 times 01 ; "));
-        row("leading noughts", x, 4);
+        T.row("leading noughts", x, 4);
         T.due("12 places", 13, Tester.read(x, "group 2;" + repeat("put 1;", 12)));
         T.due("12 by times", 2, Tester.read(x, "group 2;put 1 times 12;"));
         T.due("12 by times, places", 12, x.now(3));
@@ -271,7 +263,7 @@ public final class PromisesTest {
             T.due("part(" + i + ")", parts[i], x.part(i));
         }
         T.due("part(-1)", NONE, x.part(-1));
-        row("whatStands", x, 23, 13);
+        T.row("whatStands", x, 23, 13);
         T.due("at(-1)", NONE, x.at(-1));
         x.go(0);
         x.go(0);
@@ -307,7 +299,7 @@ public final class PromisesTest {
         T.due("sum(9)", Tester.THROWS, Tester.sum(x, 9));
         T.due("sum(-1)", Tester.THROWS, Tester.sum(x, -1));
         T.due("sum(least int)", Tester.THROWS, Tester.sum(x, Integer.MIN_VALUE));
-        row("sum changes nothing", x, 3, 1, 4);
+        T.row("sum changes nothing", x, 3, 1, 4);
         T.due("sums", 1 << 3 | 1 << 1 | 1 << 4 | 1 << 7 | 1 << 5 | 1 << 8, x.sums());
         T.due("sums of no places", 0, Tester.of("group 7;").sums());
         T.due("sums of 0", 1, Tester.of("group 7;put 0;").sums());
@@ -544,7 +536,7 @@ public final class PromisesTest {
             T.due("like(" + i + ")", due[i], x.like(i));
         }
         T.due("like(-1)", NONE, x.like(-1));
-        row("like changes nothing", x, 3, 5, 3);
+        T.row("like changes nothing", x, 3, 5, 3);
         x = Tester.of("group 8;put 6;put 4;");
         T.due("by units alone (0)", 2, x.like(0));
         T.due("by units alone (1)", 4, x.like(1));
@@ -570,7 +562,7 @@ public final class PromisesTest {
         T.due("longestAt(2)", 1, x.longestAt(2));
         T.due("longestAt(3)", NONE, x.longestAt(3));
         T.due("longestAt(-1)", NONE, x.longestAt(-1));
-        row("multisets change nothing", x, 3);
+        T.row("multisets change nothing", x, 3);
         x = Tester.of("group 2 4;");
         T.due("longest of 2 4", 4, x.longest());
         int[] first = {1, 1, 1, 4, NONE};
@@ -616,7 +608,7 @@ public final class PromisesTest {
         T.due("come(0)", 2, x.come(0));
         T.due("come(5)", NONE, x.come(5));
         T.due("come(-1)", NONE, x.come(-1));
-        row("come", x, 4, 0);
+        T.row("come", x, 4, 0);
         T.due("acts", 2, x.now(5));
         for (int i = 3; i <= 12; i++) {
             T.due("come", i, x.come(2));
@@ -627,9 +619,9 @@ public final class PromisesTest {
         T.due("go(-1)", NONE, x.go(-1));
         T.due("no acts", 0, x.now(5));
         T.due("go(1)", 2, x.go(1));
-        row("go(1)", x, 1, 3);
+        T.row("go(1)", x, 1, 3);
         T.due("go(0)", 1, x.go(0));
-        row("go(0)", x, 3);
+        T.row("go(0)", x, 3);
         T.due("go last", 0, x.go(0));
         T.due("go none", NONE, x.go(0));
     }
@@ -639,16 +631,16 @@ public final class PromisesTest {
     private static void multiplied() {
         NoughtSums x = Tester.of("group 2 6;put 1 1;put 1 2;");
         T.due("times(5)", 3, x.times(5));
-        row("times(5)", x, 11, 10);
+        T.row("times(5)", x, 11, 10);
         T.due("times(3)", NONE, x.times(3));
         T.due("times(2)", NONE, x.times(2));
         T.due("times(0)", NONE, x.times(0));
         T.due("times(-1)", NONE, x.times(-1));
         T.due("times(25)", NONE, x.times(25));
-        row("as it was", x, 11, 10);
+        T.row("as it was", x, 11, 10);
         T.due("acts", 1, x.now(5));
         T.due("times(23)", 3, x.times(23));
-        row("times(23)", x, 7, 8);
+        T.row("times(23)", x, 7, 8);
         T.due("times(1)", 3, x.times(1));
         T.due("acts", 3, x.now(5));
         T.due("times(24) of 5", 1, Tester.of("group 5;put 4;").times(24));
@@ -660,11 +652,11 @@ public final class PromisesTest {
     private static void sorted() {
         NoughtSums x = Tester.of("group 9;put 8;put 2;put 8;put 1;put 4;");
         T.due("sort", 4, x.sort());
-        row("sort", x, 1, 2, 4, 8, 8);
+        T.row("sort", x, 1, 2, 4, 8, 8);
         T.due("sort again", 0, x.sort());
         T.due("one act", 1, x.now(5));
         T.due("undo", 0, x.undo());
-        row("undone", x, 8, 2, 8, 1, 4);
+        T.row("undone", x, 8, 2, 8, 1, 4);
         T.due("of like ones", 0, Tester.of("group 9;put 3 times 12;").sort());
     }
 
@@ -711,7 +703,7 @@ public final class PromisesTest {
             T.due("places", 2 + i, x.now(3));
         }
         T.due("none more", NONE, x.undo());
-        row("what is left", x, 1, 2);
+        T.row("what is left", x, 1, 2);
         x.go(0);
         x.times(3);
         x.come(4);
@@ -719,16 +711,16 @@ public final class PromisesTest {
         x.come(11);
         x.go(9);
         x.times(11);
-        row("four acts", x, 4, 6);
+        T.row("four acts", x, 4, 6);
         T.due("four acts, those that were NONE left out", 4, x.now(5));
         x.undo();
         x.come(10);
         x.undo();
         x.undo();
         T.due("times undone", 1, x.undo());
-        row("as behind go(0)", x, 2);
+        T.row("as behind go(0)", x, 2);
         x.undo();
-        row("as ahead of go(0)", x, 1, 2);
+        T.row("as ahead of go(0)", x, 1, 2);
         T.due("none", NONE, x.undo());
     }
 
@@ -754,7 +746,7 @@ public final class PromisesTest {
         T.due("parts", 2, x.now(0));
         T.due("order", 6, x.now(1));
         T.due("exponent", 6, x.now(2));
-        row("restored", x, 5);
+        T.row("restored", x, 5);
         T.due("add", 1, x.add(5, 5));
         T.due("none undoable", 0, x.now(5));
         T.due("undo", NONE, x.undo());
@@ -763,7 +755,7 @@ public final class PromisesTest {
         T.due("fault's row stays", 1, x.fault(1));
         x.come(1);
         T.due("restore again", true, x.restore(0));
-        row("restored again", x, 5);
+        T.row("restored again", x, 5);
         T.due("restore none", true, x.restore(1));
         T.due("no group", 0, x.now(1));
         T.due("no places", 0, x.now(3));
@@ -775,6 +767,6 @@ public final class PromisesTest {
         T.due("false changes nothing", false, x.restore(5));
         T.due("acts", 2, x.now(5));
         x.restore(0);
-        row("the later image", x, 5, 0);
+        T.row("the later image", x, 5, 0);
     }
 }

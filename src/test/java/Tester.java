@@ -1,29 +1,62 @@
 import java.util.NoSuchElementException;
 
-/** What the tests share: texts put on a tape, answers compared and counted. */
+/** What the tests share: texts put on a tape, answers compared and counted, by sentence of the document. */
 final class Tester {
     static final int THROWS = Integer.MIN_VALUE;
+    private static final int MOST_TOLD = 50;
 
     private int wrong = 0;
     private int asked = 0;
+    private String sentence = "";
+    private int sentences = 0;
+    private int askedAhead = 0;
+
+    /** What is due from here on is the test of this sentence of the document. */
+    void sentence(String where, String words) {
+        endSentence();
+        sentence = where + ", '" + words + "': ";
+        sentences++;
+        askedAhead = asked;
+    }
+
+    private void endSentence() {
+        if (sentences > 0 && asked == askedAhead) {
+            due("has a test", true, false);
+        }
+    }
 
     void due(String call, long want, long got) {
+        due(call, Long.toString(want), Long.toString(got));
+    }
+
+    void due(String call, boolean want, boolean got) {
+        due(call, Boolean.toString(want), Boolean.toString(got));
+    }
+
+    void due(String call, String want, String got) {
         asked++;
-        if (want != got) {
+        if (!want.equals(got)) {
             wrong++;
-            if (wrong <= 50) {
-                System.out.println(call + " answered " + got + ", due is " + want);
+            if (wrong <= MOST_TOLD) {
+                System.out.println(sentence + call + " answered " + got + ", due is " + want);
             }
         }
     }
 
-    void due(String call, boolean want, boolean got) {
-        due(call, want ? 1 : 0, got ? 1 : 0);
+    /** The row's elements, and that there are no more. */
+    void row(String call, NoughtSums x, int... elements) {
+        due(call + " places", elements.length, x.now(3));
+        for (int i = 0; i < elements.length; i++) {
+            due(call + " at(" + i + ")", elements[i], x.at(i));
+        }
+        due(call + " at(" + elements.length + ")", NoughtSums.NONE, x.at(elements.length));
     }
 
     /** Tells the result; ends with exit code 1 if an answer was wrong. */
     void finish() {
-        System.out.println(asked + " answers, " + wrong + " not as due");
+        endSentence();
+        System.out.println((sentences > 0 ? sentences + " sentences, " : "") + asked + " answers, " + wrong
+            + " not as due");
         if (wrong > 0 || asked == 0) {
             System.exit(1);
         }
