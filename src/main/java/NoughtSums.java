@@ -34,8 +34,8 @@ public final class NoughtSums {
     private int drawSeed;
 
     public NoughtSums() {
-        tape = new Tape();
-        reader = new Reader(tape);
+        reader = new Reader();
+        tape = reader.tape();
         group = new Group();
         row = new Row();
         trial = new Row();
@@ -439,7 +439,7 @@ public final class NoughtSums {
         }
     }
 
-    /** Reads a tape as a text: a group and a row, or the first fault. */
+    /** Has the tape and reads it as a text: a group and a row, or the first fault. */
     private static final class Reader {
         private static final int TOKEN_END = 0;
         private static final int TOKEN_BAD = 1;
@@ -453,7 +453,7 @@ public final class NoughtSums {
         private static final int FAULT_NUMBER = 2;
         private static final int FAULT_PLACES = 3;
 
-        private final Tape tape;
+        private final Tape tape = new Tape();
         private int next = 0;
         private int token = TOKEN_END;
         private int tokenPlace = 0;
@@ -465,8 +465,8 @@ public final class NoughtSums {
         private int faultRow = NONE;
         private final Row row = new Row();
 
-        Reader(Tape tape) {
-            this.tape = tape;
+        Tape tape() {
+            return tape;
         }
 
         int faultKind() {

@@ -108,6 +108,7 @@ public final class FaceTest {
             T.due("throw of " + thrown.group(1), true, thrown.group(1).equals("NoSuchElementException"));
         }
         T.due("one throw", 1, count);
+        handedOut(code);
         Matcher constants = Pattern.compile("static final (\\w+)\\W").matcher(code);
         while (constants.find()) {
             T.due("static final " + constants.group(1), true,
@@ -117,5 +118,18 @@ public final class FaceTest {
         while (math.find()) {
             T.due("Math." + math.group(1), true, Set.of("min", "max").contains(math.group(1)));
         }
+    }
+
+    /** Rule 12: a constructor hands out nothing of the object that it makes; here none is handed anything. */
+    private static void handedOut(String code) {
+        Matcher made = Pattern.compile("\\bnew (\\w+)\\(([^)]*)\\)").matcher(code);
+        int count = 0;
+        while (made.find()) {
+            count++;
+            boolean thrown = made.group(1).equals("NoSuchElementException");
+            T.due(made.group() + " is handed nothing but a thrown one's text", true,
+                thrown ? made.group(2).matches("\"[^\"]*\"") : made.group(2).isEmpty());
+        }
+        T.due("objects are made", true, count > 1);
     }
 }
